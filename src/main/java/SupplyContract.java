@@ -552,12 +552,6 @@ public final class SupplyContract {
         private final int[] penalty = new int[MAX_BREACHES];
         private final boolean[] waived = new boolean[MAX_BREACHES];
 
-        private void clear() {
-            recorded = 0;
-            all = 0;
-            waivedCount = 0;
-        }
-
         private void copyFrom(Breaches other) {
             recorded = other.recorded;
             all = other.all;
@@ -926,7 +920,7 @@ public final class SupplyContract {
         }
     }
 
-    /** Reads a setup text into a draft, so that an error leaves the contract as it is. */
+    /** Reads a setup text into a draft, so that an error leaves the contract as it is. A draft has no breaches. */
     private static final class SetupReader {
         private static final int SPOT = 1;
         private static final int LADDER = 2;
@@ -946,7 +940,6 @@ public final class SupplyContract {
             in.begin(length);
             seen = 0;
             draft.terms.clear();
-            draft.breaches.clear();
             readContract();
             for (int k = 0; k < length && !in.atEnd(); k++) {
                 readStatement();

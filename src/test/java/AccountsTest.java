@@ -133,6 +133,12 @@ public final class AccountsTest {
         Checks.due("missed 2", x.missedUnits(2), 20);
         Checks.due("open 1", x.openUnits(1), 0);
         Checks.due("open 2", x.openUnits(2), 0);
+
+        SupplyContract y = Checks.contract("contract 2 0 1 0;window 2;miss 3;spot 50 1;demand 5+period;");
+        Checks.due("nothing delivered", y.close(), 0);
+        Checks.due("all missed", y.close(), -33);
+        Checks.due("missed 0", y.missedUnits(0), 5);
+        Checks.due("missed 1", y.missedUnits(1), 6);
     }
 
     private static void negativeInvoice() {

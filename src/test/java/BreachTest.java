@@ -229,6 +229,10 @@ public final class BreachTest {
         SupplyContract y = Checks.contract("contract 4 100 1 0;band 0 0 0;ladder 50 1;waivers 4 0;");
         y.forecast(1, 101);
         best("no penalties", y, 0);
+        SupplyContract z = breached("waivers 1 0;", 1, 5, 2, 9);
+        Checks.due("bestWaiver before bestWaiving", z.bestWaiver(0), 1);
+        z.forecast(3, 120);
+        Checks.due("bestWaiver after a new breach", z.bestWaiver(0), 2);
         y.forecast(2, 160);
         best("a penalty", y, 60, 1);
     }

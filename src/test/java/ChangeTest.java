@@ -12,6 +12,7 @@ public final class ChangeTest {
         onlyEightChanges();
         exceptionsAreNoChanges();
         undoOfLoad();
+        undoOfMissedUnits();
         checksums();
         Checks.end("ChangeTest");
     }
@@ -52,6 +53,10 @@ public final class ChangeTest {
         Checks.due("limit 0", x.bestReserved(0), 0);
         SupplyContract y = Checks.contract("contract 3 10 5 4;spot 999 9;demand 20;");
         Checks.due("equal costs: the smallest level", y.bestReserved(500), 0);
+        SupplyContract w = Checks.contract("contract 3 10 5 2;spot 999 9;demand 1;");
+        Checks.due("level 1", w.bestReserved(500), 1);
+        SupplyContract v = Checks.contract("contract 2 0 0 1;spot 999 2;demand 50-50*period;");
+        Checks.due("the current period keeps its own", v.bestReserved(500), 0);
         SupplyContract z = Checks.contract("contract 3 10 5 3;spot 999 9;demand 500;");
         Checks.due("the greatest level", z.bestReserved(500), 500);
         long before = z.checksum();
@@ -223,6 +228,28 @@ public final class ChangeTest {
         Checks.holds("waived", x.isWaived(0));
         Checks.due("close", x.close(), 20 + 50);
         Checks.due("open", x.openUnits(0), 10);
+
+        Checks.load(x, "contract 3 10 1 1;band 0 0 0;ladder 0 1;waivers 1 0;demand 50;");
+        x.forecast(2, 60);
+        x.waive(0);
+        for (int k = 0; k < 4; k++) {
+            x.undo();
+        }
+        Checks.due("checksum with a breach", x.checksum(), before);
+        Checks.due("period of the breach", x.breachPeriod(0), 0);
+        Checks.due("kind of the breach", x.breachKind(0), 2);
+        Checks.due("penalty of the breach", x.breachPenalty(0), 12 * 4);
+        Checks.holds("still waived", x.isWaived(0));
+    }
+
+    private static void undoOfMissedUnits() {
+        SupplyContract x = Checks.contract("contract 3 10 5 2;demand 30;");
+        x.close();
+        Checks.due("missed", x.missedUnits(0), 20);
+        x.undo();
+        Checks.due("no longer missed", x.missedUnits(0), 0);
+        Checks.due("no invoice", x.invoice(0), 0);
+        Checks.due("no order", x.orderOf(0), -1);
     }
 
     private static long mix(long... numbers) {

@@ -27,9 +27,11 @@ public final class ModelTest {
 
     private void play() {
         int loads = run % 3 == 0 ? 3 : 60;
-        while (calls < CALLS - 60) {
+        while (calls < CALLS - 100) {
             if (calls == 0 || random.nextInt(loads) == 0) {
                 load();
+            } else if (random.nextInt(40) == 0) {
+                undoSome();
             } else {
                 call();
             }
@@ -54,6 +56,20 @@ public final class ModelTest {
         same("load of " + text, () -> x.load(length), () -> m.load(length));
         same("errorOffset of " + text, () -> x.errorOffset(), () -> m.errorOffset());
         same("checksum after " + text, () -> x.checksum(), () -> m.checksum());
+    }
+
+    private void undoSome() {
+        for (int k = random.nextInt(10); k >= 0; k--) {
+            same("undo", () -> x.undo(), () -> m.undo());
+        }
+        same("checksum", () -> x.checksum(), () -> m.checksum());
+        same("projected", () -> x.projected(), () -> m.projected());
+        for (int k = 0; k < x.breachCount(); k++) {
+            int b = k;
+            same("breachPeriod " + b, () -> x.breachPeriod(b), () -> m.breachPeriod(b));
+            same("breachKind " + b, () -> x.breachKind(b), () -> m.breachKind(b));
+            same("breachPenalty " + b, () -> x.breachPenalty(b), () -> m.breachPenalty(b));
+        }
     }
 
     private int upTo(int most) {

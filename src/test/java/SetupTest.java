@@ -9,6 +9,7 @@ public final class SetupTest {
         lengths();
         replacing();
         grammar();
+        earlyEnds();
         headErrors();
         statementErrors();
         ladderErrors();
@@ -124,6 +125,10 @@ public final class SetupTest {
         x.order(50);
         Checks.due("no window, spot, minimum and miss price", x.close(), 20);
         Checks.due("missed", x.missedUnits(0), 40);
+        x.order(0);
+        Checks.due("no minimum", x.close(), 10);
+        Checks.due("the statements of an earlier text do not count", Checks.load(x, "contract 4 1 1 1;spot 1 2;"), 4);
+        Checks.due("once more", Checks.load(x, "contract 4 1 1 1;spot 1 2;"), 4);
     }
 
     private static void grammar() {
@@ -135,12 +140,33 @@ public final class SetupTest {
         accepted(HEAD + "demand((((1))))+((((2))));");
         accepted(HEAD + "demand period*season/reserved-9999;");
         accepted(HEAD + "band 0 0 0;band 1 0 0;band 2 0 0;");
+        accepted(HEAD + "spot 0 0;ladder 0 0;window 0;minimum 0;miss 0;waivers 0 0;demand 0;");
         accepted(HEAD + "demand 1+2 ; spot 1 2 ;window 0;");
         StringBuilder longest = new StringBuilder(HEAD).append("demand 1");
         while (longest.length() < 797) {
             longest.append("+1");
         }
         accepted(longest.append(" ;").toString());
+    }
+
+    /** The text ends with the buffer, or before bytes that would continue it. */
+    private static void earlyEnds() {
+        String[] ends = {"spot", "spot 1", "spot 1 1", "ladder 1", "ladder 1 1", "demand", "demand 1", "demand 1+",
+            "demand period", "demand (", "demand (1", "demand (1)", "x", "band 1 1", "spot 1 1; window"};
+        for (String end : ends) {
+            StringBuilder text = new StringBuilder(HEAD);
+            while (text.length() + end.length() < 800) {
+                text.append(' ');
+            }
+            syntax(text.append(end).toString(), end.equals("x") ? 799 : 800);
+            for (String more : new String[] {"1", " 1", "z", ")", ";", "+1;"}) {
+                SupplyContract x = new SupplyContract();
+                Checks.append(x, HEAD + end + more);
+                int length = HEAD.length() + end.length();
+                Checks.due(end + " before " + more, x.load(length), SupplyContract.SYNTAX_ERROR);
+                Checks.due(end + " before " + more + ": offset", x.errorOffset(), end.equals("x") ? 17 : length);
+            }
+        }
     }
 
     private static void accepted(String text) {
@@ -197,6 +223,13 @@ public final class SetupTest {
         syntax(HEAD + "bands 0 0 0;", 17);
         syntax(HEAD + "Band 0 0 0;", 17);
         syntax(HEAD + "ban", 17);
+        syntax(HEAD + "xpot 1 1;", 17);
+        syntax(HEAD + "spox 1 1;", 17);
+        syntax(HEAD + "spotz 1 1;", 17);
+        syntax(HEAD + "spot{1 1;", 21);
+        syntax(HEAD + "spot`1 1;", 21);
+        syntax(HEAD + "spot 1/1;", 23);
+        syntax(HEAD + "spot 1:1;", 23);
         syntax(HEAD + "5", 17);
         syntax(HEAD + "spot 5;", 23);
         syntax(HEAD + "spot 5 5 5;", 26);
@@ -296,6 +329,8 @@ public final class SetupTest {
         forecasts("demand 10-4*2+9/(1+1);", 6, 6, 6, 6, 6, 6);
         forecasts("demand 7/(period-period)+1;", 1, 1, 1, 1, 1, 1);
         forecasts("", 50, 50, 50, 50, 50, 50);
+        SupplyContract x = Checks.contract("contract 40 50 1 1;demand period+1;");
+        Checks.due("the last of 40 periods", x.forecastOf(39), 40);
     }
 
     private static void forecasts(String statement, int... want) {
