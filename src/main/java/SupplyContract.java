@@ -13,7 +13,7 @@ public final class SupplyContract {
     private static final int MAX_LEADS = 40;
     private static final int MAX_UNITS = 9999;
     private static final int MAX_PRICE = 999;
-    private static final int MAX_PERCENT = 100;
+    private static final int MAX_STEP_PERCENT = 999;
     private static final int MAX_STEPS = 6;
     private static final int MAX_BREACHES = 20;
     private static final int MAX_WAIVERS = 4;
@@ -719,18 +719,24 @@ public final class SupplyContract {
     }
 
     /**
-     * The input buffer and the reading of its tokens, from left to right. Only the first error is kept, which is the
+     * The input buffer and its tokens, which are read from left to right. Only the first error is kept, which is the
      * one with the smallest offset; after it the text counts as read to its end, so that every reader of it comes to
      * its end by itself.
      */
     private static final class InputText {
+        /** Kinds of tokens; the kind of a sign is its byte, 0 to 255. */
+        private static final int END = -1;
+        private static final int NUMBER = 256;
+        private static final int WORD = 257;
         private static final int FAR_TOO_GREAT = 100000;
 
         private final byte[] text = new byte[MAX_TEXT];
         private int filled = 0;
         private int length = 0;
         private int at = 0;
+        private int kind = END;
         private int tokenStart = 0;
+        private int value = 0;
         private int error = 0;
         private int errorAt = -1;
 
@@ -744,10 +750,39 @@ public final class SupplyContract {
 
         private void begin(int textLength) {
             length = textLength;
-            at = 0;
-            tokenStart = 0;
             error = 0;
             errorAt = -1;
+            goTo(0);
+        }
+
+        private void goTo(int offset) {
+            at = offset;
+            advance();
+        }
+
+        private void advance() {
+            while (at < length && text[at] == ' ') {
+                at++;
+            }
+            tokenStart = at;
+            if (at >= length) {
+                kind = END;
+            } else if (text[at] >= '0' && text[at] <= '9') {
+                kind = NUMBER;
+                value = 0;
+                while (at < length && text[at] >= '0' && text[at] <= '9') {
+                    value = Math.min(FAR_TOO_GREAT, 10 * value + text[at] - '0');
+                    at++;
+                }
+            } else if (text[at] >= 'a' && text[at] <= 'z') {
+                kind = WORD;
+                while (at < length && text[at] >= 'a' && text[at] <= 'z') {
+                    at++;
+                }
+            } else {
+                kind = text[at] & 255;
+                at++;
+            }
         }
 
         private void fail(int code, int offset) {
@@ -756,77 +791,50 @@ public final class SupplyContract {
                 errorAt = offset;
             }
             at = length;
-        }
-
-        private void failAtToken(int code) {
-            fail(code, tokenStart);
-        }
-
-        private boolean atEnd() {
-            skipSpaces();
-            return at >= length;
-        }
-
-        private void skipSpaces() {
-            while (at < length && text[at] == ' ') {
-                at++;
-            }
-        }
-
-        private boolean isNext(char sign) {
-            skipSpaces();
-            return at < length && text[at] == sign;
-        }
-
-        private boolean isDigitNext() {
-            skipSpaces();
-            return at < length && text[at] >= '0' && text[at] <= '9';
-        }
-
-        private boolean take(char sign) {
-            if (!isNext(sign)) {
-                return false;
-            }
-            at++;
-            return true;
-        }
-
-        private void require(char sign) {
-            if (!take(sign)) {
-                fail(SYNTAX_ERROR, at);
-            }
+            kind = END;
         }
 
         /** Returns a number of the range in any case, so that a caller may use it as an index. */
         private int number(int least, int most) {
-            skipSpaces();
-            tokenStart = at;
-            int value = 0;
-            while (at < length && text[at] >= '0' && text[at] <= '9') {
-                value = Math.min(FAR_TOO_GREAT, 10 * value + text[at] - '0');
-                at++;
-            }
-            if (at == tokenStart) {
-                failAtToken(SYNTAX_ERROR);
+            if (kind != NUMBER) {
+                fail(SYNTAX_ERROR, tokenStart);
                 return least;
             }
             if (value < least || value > most) {
-                failAtToken(OUT_OF_RANGE);
+                fail(OUT_OF_RANGE, tokenStart);
                 return least;
             }
-            return value;
+            int number = value;
+            advance();
+            return number;
         }
 
-        private void word() {
-            skipSpaces();
-            tokenStart = at;
-            while (at < length && text[at] >= 'a' && text[at] <= 'z') {
-                at++;
+        private void sign(char expected) {
+            if (kind == expected) {
+                advance();
+            } else {
+                fail(SYNTAX_ERROR, tokenStart);
             }
         }
 
-        private boolean wordIs(String name) {
-            if (at - tokenStart != name.length()) {
+        private boolean takeSign(char possible) {
+            boolean found = kind == possible;
+            if (found) {
+                advance();
+            }
+            return found;
+        }
+
+        private boolean takeWord(String possible) {
+            boolean found = isWord(possible);
+            if (found) {
+                advance();
+            }
+            return found;
+        }
+
+        private boolean isWord(String name) {
+            if (kind != WORD || at - tokenStart != name.length()) {
                 return false;
             }
             for (int k = 0; k < name.length(); k++) {
@@ -845,18 +853,12 @@ public final class SupplyContract {
         private int period = 0;
         private int reserved = 0;
 
-        private long valueIn(InputText in, int ofPeriod, int initialReserved) {
-            period = ofPeriod;
-            reserved = initialReserved;
-            return sum(in, 0);
-        }
-
         private long sum(InputText in, int depth) {
             long value = term(in, depth);
             for (int k = 0; k < MAX_TEXT; k++) {
-                if (in.take('+')) {
+                if (in.takeSign('+')) {
                     value = limited(value + term(in, depth));
-                } else if (in.take('-')) {
+                } else if (in.takeSign('-')) {
                     value = limited(value - term(in, depth));
                 } else {
                     break;
@@ -868,9 +870,9 @@ public final class SupplyContract {
         private long term(InputText in, int depth) {
             long value = factor(in, depth);
             for (int k = 0; k < MAX_TEXT; k++) {
-                if (in.take('*')) {
+                if (in.takeSign('*')) {
                     value = limited(value * factor(in, depth));
-                } else if (in.take('/')) {
+                } else if (in.takeSign('/')) {
                     value = limited(quotient(value, factor(in, depth)));
                 } else {
                     break;
@@ -880,35 +882,25 @@ public final class SupplyContract {
         }
 
         private long factor(InputText in, int depth) {
-            if (in.isDigitNext()) {
-                return in.number(0, MAX_UNITS);
-            }
-            if (in.isNext('(')) {
-                return parenthesis(in, depth);
-            }
-            in.word();
-            if (in.wordIs("period")) {
-                return period;
-            }
-            if (in.wordIs("season")) {
-                return period % 4;
-            }
-            if (in.wordIs("reserved")) {
-                return reserved;
-            }
-            in.failAtToken(SYNTAX_ERROR);
-            return 0;
-        }
-
-        private long parenthesis(InputText in, int depth) {
-            if (depth >= MAX_DEPTH) {
-                in.fail(TOO_DEEP, in.at);
+            if (in.kind == '(' && depth >= MAX_DEPTH) {
+                in.fail(TOO_DEEP, in.tokenStart);
                 return 0;
             }
-            in.require('(');
-            long value = sum(in, depth + 1);
-            in.require(')');
-            return value;
+            if (in.takeSign('(')) {
+                long value = sum(in, depth + 1);
+                in.sign(')');
+                return value;
+            }
+            if (in.takeWord("period")) {
+                return period;
+            }
+            if (in.takeWord("season")) {
+                return period % 4;
+            }
+            if (in.takeWord("reserved")) {
+                return reserved;
+            }
+            return in.number(0, MAX_UNITS);
         }
 
         private static long quotient(long dividend, long divisor) {
@@ -934,6 +926,7 @@ public final class SupplyContract {
         private final DemandReader demand = new DemandReader();
         private final Contract draft = new Contract();
         private int seen = 0;
+        private int demandAt = 0;
 
         /** Returns the error code, 0 if there is none. */
         private int read(int length) {
@@ -941,53 +934,57 @@ public final class SupplyContract {
             seen = 0;
             draft.terms.clear();
             readContract();
-            for (int k = 0; k < length && !in.atEnd(); k++) {
+            for (int k = 0; k < length && in.kind != InputText.END; k++) {
                 readStatement();
-                in.require(';');
+                in.sign(';');
+            }
+            if (in.error == 0 && (seen & DEMAND) != 0) {
+                computeForecasts();
             }
             return in.error;
         }
 
         private void readContract() {
-            in.word();
-            if (!in.wordIs("contract")) {
-                in.failAtToken(SYNTAX_ERROR);
-            }
             Terms terms = draft.terms;
+            if (!in.takeWord("contract")) {
+                in.fail(SYNTAX_ERROR, in.tokenStart);
+            }
             terms.periods = in.number(2, MAX_PERIODS);
             draft.accounts.clear(in.number(0, MAX_UNITS));
             terms.unitPrice = in.number(0, MAX_PRICE);
             terms.fee = in.number(0, 99);
-            in.require(';');
+            in.sign(';');
         }
 
         private void readStatement() {
-            in.word();
-            if (in.wordIs("band")) {
+            Terms terms = draft.terms;
+            if (in.takeWord("band")) {
                 readBand();
-            } else if (isFirst("spot", SPOT)) {
-                draft.terms.spotLimit = in.number(0, MAX_UNITS);
-                draft.terms.spotPrice = in.number(0, MAX_PRICE);
-            } else if (isFirst("ladder", LADDER)) {
+            } else if (takeFirst("spot", SPOT)) {
+                terms.spotLimit = in.number(0, MAX_UNITS);
+                terms.spotPrice = in.number(0, MAX_PRICE);
+            } else if (takeFirst("ladder", LADDER)) {
                 readLadder();
-            } else if (isFirst("window", WINDOW)) {
-                draft.terms.window = in.number(0, 6);
-            } else if (isFirst("minimum", MINIMUM)) {
-                draft.terms.minimum = in.number(0, MAX_PERCENT);
-            } else if (isFirst("miss", MISS)) {
-                draft.terms.missPrice = in.number(0, MAX_PRICE);
-            } else if (isFirst("waivers", WAIVERS)) {
-                draft.terms.waivers = in.number(0, MAX_WAIVERS);
-                draft.terms.gap = in.number(0, 40);
-            } else if (isFirst("demand", DEMAND)) {
-                readDemand();
+            } else if (takeFirst("window", WINDOW)) {
+                terms.window = in.number(0, 6);
+            } else if (takeFirst("minimum", MINIMUM)) {
+                terms.minimum = in.number(0, 100);
+            } else if (takeFirst("miss", MISS)) {
+                terms.missPrice = in.number(0, MAX_PRICE);
+            } else if (takeFirst("waivers", WAIVERS)) {
+                terms.waivers = in.number(0, MAX_WAIVERS);
+                terms.gap = in.number(0, 40);
+            } else if (takeFirst("demand", DEMAND)) {
+                demandAt = in.tokenStart;
+                demand.sum(in, 0);
             } else {
-                in.failAtToken(SYNTAX_ERROR);
+                in.fail(SYNTAX_ERROR, in.tokenStart);
             }
         }
 
-        private boolean isFirst(String name, int mark) {
-            if ((seen & mark) != 0 || !in.wordIs(name)) {
+        /** A second statement of the kind is not taken: it is an error at its first letter. */
+        private boolean takeFirst(String name, int mark) {
+            if ((seen & mark) != 0 || !in.takeWord(name)) {
                 return false;
             }
             seen |= mark;
@@ -996,17 +993,18 @@ public final class SupplyContract {
 
         private void readBand() {
             Terms terms = draft.terms;
+            int leadAt = in.tokenStart;
             int lead = in.number(0, MAX_LEADS - 1);
             if (terms.hasBand(lead)) {
-                in.failAtToken(OUT_OF_RANGE);
+                in.fail(OUT_OF_RANGE, leadAt);
             }
-            terms.low[lead] = in.number(0, MAX_PERCENT);
-            terms.high[lead] = in.number(0, MAX_PERCENT);
+            terms.low[lead] = in.number(0, 100);
+            terms.high[lead] = in.number(0, 100);
         }
 
         private void readLadder() {
             readStep();
-            for (int k = 0; k < MAX_STEPS && in.isDigitNext(); k++) {
+            for (int k = 0; k < MAX_STEPS && in.kind == InputText.NUMBER; k++) {
                 readStep();
             }
         }
@@ -1014,9 +1012,10 @@ public final class SupplyContract {
         private void readStep() {
             Terms terms = draft.terms;
             int step = terms.steps;
-            int percent = in.number(step == 0 ? 0 : terms.stepPercent[step - 1] + 1, MAX_PRICE);
+            int percentAt = in.tokenStart;
+            int percent = in.number(step == 0 ? 0 : terms.stepPercent[step - 1] + 1, MAX_STEP_PERCENT);
             if (step >= MAX_STEPS) {
-                in.failAtToken(TOO_MANY);
+                in.fail(TOO_MANY, percentAt);
                 return;
             }
             terms.stepPercent[step] = percent;
@@ -1024,14 +1023,15 @@ public final class SupplyContract {
             terms.steps++;
         }
 
-        /** The expression is read anew for each period; only the first reading can find an error. */
-        private void readDemand() {
-            int begin = in.at;
-            int[] forecast = draft.accounts.forecast;
-            for (int p = 0; p < draft.terms.periods && in.error == 0; p++) {
-                in.at = begin;
-                long value = demand.valueIn(in, p, draft.accounts.reserved[p]);
-                forecast[p] = (int) Math.max(0, Math.min(MAX_UNITS, value));
+        /** The expression has no error any more: it is read anew for each period. */
+        private void computeForecasts() {
+            Accounts accounts = draft.accounts;
+            for (int p = 0; p < draft.terms.periods; p++) {
+                in.goTo(demandAt);
+                demand.period = p;
+                demand.reserved = accounts.reserved[p];
+                long value = demand.sum(in, 0);
+                accounts.forecast[p] = (int) Math.max(0, Math.min(MAX_UNITS, value));
             }
         }
     }
