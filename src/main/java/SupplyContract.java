@@ -287,7 +287,7 @@ public final class SupplyContract {
         if (excess == 0) {
             return 0;
         }
-        return now.breaches.record(period, kind, now.terms.penalty(excess, forecast));
+        return now.breaches.addBreach(period, kind, now.terms.penalty(excess, forecast));
     }
 
     private int cheapestLevel(int limit) {
@@ -563,7 +563,7 @@ public final class SupplyContract {
         }
 
         /** Returns the penalty that is due: 0 if the breach is only counted. */
-        private int record(int inPeriod, int ofKind, int due) {
+        private int addBreach(int inPeriod, int ofKind, int due) {
             all++;
             if (recorded >= MAX_BREACHES) {
                 return 0;
