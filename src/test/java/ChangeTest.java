@@ -55,7 +55,7 @@ public final class ChangeTest {
         Checks.due("equal costs: the smallest level", y.bestReserved(500), 0);
         SupplyContract w = Checks.contract("contract 3 10 5 2;spot 999 9;demand 1;");
         Checks.due("level 1", w.bestReserved(500), 1);
-        SupplyContract v = Checks.contract("contract 2 0 0 1;spot 999 2;demand 50-50*period;");
+        SupplyContract v = Checks.contract("contract 2 0 0 1;spot 999 3;demand 50-50*period;");
         Checks.due("the current period keeps its own", v.bestReserved(500), 0);
         SupplyContract z = Checks.contract("contract 3 10 5 3;spot 999 9;demand 500;");
         Checks.due("the greatest level", z.bestReserved(500), 500);
