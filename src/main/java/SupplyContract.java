@@ -314,8 +314,6 @@ public final class SupplyContract {
 
     /** What the setup text fixes for the whole contract. */
     private static final class Terms {
-        private static final int NO_BAND = -1;
-
         private int periods = 0;
         private int unitPrice = 0;
         private int fee = 0;
@@ -329,12 +327,10 @@ public final class SupplyContract {
         private int steps = 0;
         private final int[] stepPercent = new int[MAX_STEPS];
         private final int[] stepPrice = new int[MAX_STEPS];
+        /** Bit d stands for a band of lead d; low and high hold something only there. */
+        private long bandLeads = 0;
         private final int[] low = new int[MAX_LEADS];
         private final int[] high = new int[MAX_LEADS];
-
-        private Terms() {
-            Arrays.fill(low, NO_BAND);
-        }
 
         private void clear() {
             periods = 0;
@@ -348,7 +344,7 @@ public final class SupplyContract {
             waivers = 0;
             gap = 0;
             steps = 0;
-            Arrays.fill(low, NO_BAND);
+            bandLeads = 0;
         }
 
         private void copyFrom(Terms other) {
@@ -363,6 +359,7 @@ public final class SupplyContract {
             waivers = other.waivers;
             gap = other.gap;
             steps = other.steps;
+            bandLeads = other.bandLeads;
             System.arraycopy(other.stepPercent, 0, stepPercent, 0, MAX_STEPS);
             System.arraycopy(other.stepPrice, 0, stepPrice, 0, MAX_STEPS);
             System.arraycopy(other.low, 0, low, 0, MAX_LEADS);
@@ -370,7 +367,13 @@ public final class SupplyContract {
         }
 
         private boolean hasBand(int lead) {
-            return low[lead] != NO_BAND;
+            return (bandLeads >>> lead & 1) != 0;
+        }
+
+        private void addBand(int lead, int lowPercent, int highPercent) {
+            bandLeads |= 1L << lead;
+            low[lead] = lowPercent;
+            high[lead] = highPercent;
         }
 
         private int bandLead(int lead) {
@@ -998,8 +1001,7 @@ public final class SupplyContract {
             if (terms.hasBand(lead)) {
                 in.fail(OUT_OF_RANGE, leadAt);
             }
-            terms.low[lead] = in.number(0, 100);
-            terms.high[lead] = in.number(0, 100);
+            terms.addBand(lead, in.number(0, 100), in.number(0, 100));
         }
 
         private void readLadder() {
