@@ -6,15 +6,25 @@ final class Checks {
     private static final int STEP = 20;
     private static int checked = 0;
     private static int wrong = 0;
+    private static String about = "";
 
     private Checks() {
+    }
+
+    /** What the next answers are about; it stands before each wrong one. */
+    static void about(String words) {
+        about = words;
+    }
+
+    static int lookedAt() {
+        return checked;
     }
 
     static void due(String what, long got, long want) {
         checked++;
         if (got != want) {
             wrong++;
-            System.out.println(what + ": answered " + got + ", due is " + want);
+            System.out.println(about + what + ": answered " + got + ", due is " + want);
         }
     }
 
@@ -26,7 +36,7 @@ final class Checks {
         checked++;
         if (!got.equals(want)) {
             wrong++;
-            System.out.println(what + ": answered " + got + ", due is " + want);
+            System.out.println(about + what + ": answered " + got + ", due is " + want);
         }
     }
 
