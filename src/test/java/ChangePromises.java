@@ -424,23 +424,27 @@ final class ChangePromises {
         Checks.holds("not waived", !x.isWaived(3));
     }
 
+    /** A contract after the first changes of a run that has one of each kind. */
+    private static SupplyContract changed(int changes) {
+        SupplyContract x = Checks.contract(TEXT);
+        for (int k = 0; k < changes; k++) {
+            switch (k) {
+                case 0 -> x.forecast(2, 130);
+                case 1 -> x.order(120);
+                case 2 -> x.waive(1);
+                case 3 -> x.reserve(1, 50);
+                default -> x.close();
+            }
+        }
+        return x;
+    }
+
     @Sentence(in = "Promise 33", says = "Undoes the latest change that has not been undone.")
     static void undoGivesBackTheState() {
-        SupplyContract x = Checks.contract(TEXT);
-        String[] states = new String[7];
-        states[0] = Seen.state(x);
-        x.forecast(2, 130);
-        states[1] = Seen.state(x);
-        x.order(120);
-        states[2] = Seen.state(x);
-        x.waive(1);
-        states[3] = Seen.state(x);
-        x.reserve(1, 50);
-        states[4] = Seen.state(x);
-        x.close();
+        SupplyContract x = changed(5);
         for (int k = 4; k >= 0; k--) {
             Checks.due("undo " + k, x.undo(), k + 1);
-            Checks.dueText("state " + k, Seen.state(x), states[k]);
+            Checks.dueText("state " + k, Seen.state(x), Seen.state(changed(k)));
         }
     }
 
@@ -519,6 +523,8 @@ final class ChangePromises {
         Checks.due("a new object", x.undo(), -1);
         Checks.due("again", x.undo(), -1);
         Checks.due("the buffer", x.load(20), 7);
+        x.order(3);
+        x.close();
         for (int k = 0; k < 8; k++) {
             x.forecast(6, 50 + k);
         }
@@ -526,8 +532,8 @@ final class ChangePromises {
             x.undo();
         }
         String before = Seen.state(x);
-        Checks.due("the load is too long ago", x.undo(), -1);
-        Checks.due("the load is too long ago, again", x.undo(), -1);
+        Checks.due("the closing is too long ago", x.undo(), -1);
+        Checks.due("the closing is too long ago, again", x.undo(), -1);
         Checks.dueText("state", Seen.state(x), before);
         x.close();
         Checks.due("a new change can be undone", x.undo(), 0);

